@@ -1,5 +1,6 @@
 import java.util.ArrayDeque;
 import java.util.ArrayList;
+import java.util.Collections;
 import java.util.Deque;
 import java.util.List;
 import java.util.Random;
@@ -27,7 +28,29 @@ public final class ModelTests {
         for (int seed = 0; seed < GAMES; seed++) {
             new ModelTests(seed).playOne(seed);
         }
+        for (int power = 0; power <= 6; power++) {
+            compareWideBoard(power);
+        }
         Due.end();
+    }
+
+    /** The most turns of all: two builders of each player on an empty board of 25 cells. */
+    private static void compareWideBoard(int power) {
+        int[][] at = {{12, 7}, {6, 18}};
+        Model model = new Model(5, 5, new int[] {power, 0}, new int[25], at);
+        Stormroof game = new Stormroof();
+        game.begin(5, 5, 2, power, 0);
+        for (int[] cells : at) {
+            for (int cell : cells) {
+                game.place(cell);
+            }
+        }
+        List<Integer> turns = new ArrayList<>(model.turns().keySet());
+        Due.answer("wide board, turnCount with power " + power, turns.size(), game::turnCount);
+        for (int i = 0; i < turns.size(); i++) {
+            int place = i;
+            Due.answer("wide board, turnAt " + i + " with power " + power, turns.get(i), () -> game.turnAt(place));
+        }
     }
 
     private void playOne(int seed) {
@@ -59,7 +82,7 @@ public final class ModelTests {
         for (int cell = 0; cell < cells; cell++) {
             free.add(cell);
         }
-        java.util.Collections.shuffle(free, chance);
+        Collections.shuffle(free, chance);
         int[][] at = new int[2][builders];
         for (int i = 0; i < 2 * builders; i++) {
             int cell = free.get(i);

@@ -360,6 +360,13 @@ public final class PromiseTests {
         turns("barred from a push", push, 501, 502, 507, 508, 703, 705, 706, 708);
         Stormroof stuck = duel(3, 4, 0, new int[] {0, 1, 1, 0, 1, 0}, 0, 5);
         Due.answer("barred from all", 0, () -> stuck.play(103));
+        Stormroof anew = duel(3, 4, 0, heights, 0, 5);
+        anew.play(103);
+        anew.begin(2, 2, 1, 0, 0);
+        anew.raise(1, 1);
+        anew.place(0);
+        anew.place(3);
+        turns("not barred in the next game", anew, 100, 102, 200, 201);
         Stormroof moved = duel(2, 2, 4, new int[] {1, 0, 0, 0}, 0, 3);
         moved.play(301);
         Due.answer("lifted by a swap", 10, () -> moved.builderAt(0));
@@ -473,6 +480,11 @@ public final class PromiseTests {
         Due.notNow("worth", () -> placed.worth(0));
         Due.notNow("place", () -> placed.place(0));
         Due.notNow("raise", () -> placed.raise(1, 0));
+
+        Stormroof noRoom = duel(2, 2, 0, new int[] {0, 4, 4, 0}, 0, 3);
+        Due.answer("no room to build behind the only move", 1, noRoom::winner);
+        Stormroof four = game(3, 3, 2, 0, 0, new int[] {0, 0, 4, 4, 4, 4, 0, 0, 0}, 0, 1, 7, 8);
+        Due.answer("only the other player can move", 1, four::winner);
 
         Stormroof shut = duel(2, 6, 0, new int[] {0, 0, 4, 0}, 0, 3);
         Due.answer("player 1 is shut in", 0, () -> shut.play(150));
