@@ -1,14 +1,5 @@
-import java.util.ArrayList;
-import java.util.Arrays;
-import java.util.List;
-
 /** What the document promises, promise by promise, on boards small enough to follow by hand. */
-public final class PromiseTests {
-
-    // Boards are written as their heights, row by row.
-    private static final int[] FLAT_2_2 = {0, 0, 0, 0};
-    private static final int[] FLAT_2_3 = {0, 0, 0, 0, 0, 0};
-    private static final int[] FLAT_3_3 = {0, 0, 0, 0, 0, 0, 0, 0, 0};
+public final class PromiseTests extends Games {
 
     public static void main(String[] args) {
         newObject();
@@ -37,34 +28,6 @@ public final class PromiseTests {
         aheadRefuses();
         reached();
         Due.end();
-    }
-
-    private static Stormroof game(int rows, int columns, int builders, int first, int second, int[] heights,
-            int... placed) {
-        Stormroof game = new Stormroof();
-        game.begin(rows, columns, builders, first, second);
-        for (int cell = 0; cell < heights.length; cell++) {
-            game.raise(cell, heights[cell]);
-        }
-        for (int cell : placed) {
-            game.place(cell);
-        }
-        return game;
-    }
-
-    /** Two players with one builder each. */
-    private static Stormroof duel(int columns, int first, int second, int[] heights, int own, int other) {
-        return game(heights.length / columns, columns, 1, first, second, heights, own, other);
-    }
-
-    private static void turns(String what, Stormroof game, Integer... due) {
-        List<Integer> turns = new ArrayList<>();
-        int count = game.turnCount();
-        for (int i = 0; i < count; i++) {
-            turns.add(game.turnAt(i));
-        }
-        Due.is(what, turns, Arrays.asList(due));
-        Due.outside(what + ", behind the last", () -> game.turnAt(count));
     }
 
     private static void newObject() {
