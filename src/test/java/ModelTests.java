@@ -29,14 +29,15 @@ public final class ModelTests {
             new ModelTests(seed).playOne(seed);
         }
         for (int power = 0; power <= 6; power++) {
-            compareWideBoard(power);
+            compareWideBoard(power, new int[][] {{12, 7}, {6, 18}});
+            // By the power 1 there are 205 turns, the most that many tries have found.
+            compareWideBoard(power, new int[][] {{12, 13}, {1, 21}});
         }
         Due.end();
     }
 
     /** The most turns of all: two builders of each player on an empty board of 25 cells. */
-    private static void compareWideBoard(int power) {
-        int[][] at = {{12, 7}, {6, 18}};
+    private static void compareWideBoard(int power, int[][] at) {
         Model model = new Model(5, 5, new int[] {power, 0}, new int[25], at);
         Stormroof game = new Stormroof();
         game.begin(5, 5, 2, power, 0);

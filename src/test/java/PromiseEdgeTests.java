@@ -557,9 +557,10 @@ public final class PromiseEdgeTests extends Games {
         }
         Stormroof game = behind(allPlaced().make(), 201);
         Due.outside("as many places as before are too many", () -> game.turnAt(game.turnCount()));
-        Stormroof wide = game(5, 5, 2, 1, 0, new int[25], 12, 7, 0, 24);
+        // Builder 1 comes from cell 13 to cell 24 by way of 18 or 19, and builds on 23 at the highest.
+        Stormroof wide = game(5, 5, 2, 1, 0, new int[25], 12, 13, 1, 21);
         int count = wide.turnCount();
-        Due.is("the last of many", Due.outcome(() -> wide.turnAt(count - 1)).startsWith("1"), true);
+        Due.answer("the last of many", 12423, () -> wide.turnAt(count - 1));
         Due.outside("behind the last of many", () -> wide.turnAt(count));
     }
 
